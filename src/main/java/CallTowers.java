@@ -851,10 +851,9 @@ public final class CallTowers {
             layTargets(tower);
             firstEdges = countEdges();
             System.arraycopy(weights, 0, before, 0, weights.length);
-            for (rounds = 0; rounds < ROUNDS; rounds++) {
-                if (!playRound(tower)) {
-                    break;
-                }
+            rounds = 0;
+            for (int round = 0; round < ROUNDS && playRound(tower); round++) {
+                rounds++;
                 // Rules add edges at the nodes of states alone.
                 System.arraycopy(weights, 0, before, 0, tower.states * LETTERS * NODES);
             }
@@ -1045,14 +1044,11 @@ public final class CallTowers {
             done = 0;
             latest = NONE;
             paces.fillBottom(tails);
-            left = tails[state];
             for (int i = 0; i < height; i++) {
                 letters[i] = tower.stack[i];
                 fillTail(i, paces);
             }
-            if (height > 0) {
-                left = tails[height * NODES + state];
-            }
+            left = tails[height * NODES + state];
         }
 
         /** Fills the row that counts the letter with this index in. */

@@ -36,7 +36,8 @@ final class LanguageTest {
                 found.add(method.getName() + "/" + method.getParameterCount());
                 CHECK.holds("1: int " + method.getName(), method.getReturnType() == int.class);
             } else {
-                CHECK.holds("1: private " + method.getName(), Modifier.isPrivate(method.getModifiers()));
+                CHECK.holds("1: private " + method.getName(), Modifier.isPrivate(method.getModifiers())
+                    && !isTaken(method.getName()));
             }
         }
         CHECK.holds("1: the face " + found, found.equals(FACE));
@@ -61,10 +62,14 @@ final class LanguageTest {
                 && !Modifier.isPublic(inside.getModifiers()) && !Modifier.isProtected(inside.getModifiers()));
             fieldsAndParameters(inside);
             for (Method method : inside.getDeclaredMethods()) {
-                boolean taken = FACE.stream().anyMatch(name -> name.startsWith(method.getName() + "/"));
-                CHECK.holds("1: no name of the face: " + inside.getName() + "." + method.getName(), !taken);
+                CHECK.holds("1: no name of the face: " + inside.getName() + "." + method.getName(),
+                    !isTaken(method.getName()));
             }
         }
+    }
+
+    private static boolean isTaken(String name) {
+        return FACE.stream().anyMatch(taken -> taken.startsWith(name + "/"));
     }
 
     private static void fieldsAndParameters(Class<?> kind) {

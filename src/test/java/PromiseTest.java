@@ -18,6 +18,7 @@ final class PromiseTest {
         undo();
         price();
         run();
+        longRun();
         heads();
         edges();
         automaton();
@@ -112,6 +113,17 @@ final class PromiseTest {
         faultOf(rules + "m1;r0,a,0,,1;", 103);
         faultOf("t0,;t0,.;t0,;t0,;", -4);
         faultOf("t0,;t0,.;t0,;t0,;t0,;", 17);
+        // The text ends where its last character may be, in the middle of each kind of part.
+        faultOf("m0;".repeat(65) + "c0,;m", 199);
+        faultOf("m0;".repeat(63) + "c0,;c0,;r0,", 197);
+        faultOf("m0;".repeat(66) + "m0", 198);
+        faultOf("m0;".repeat(65) + "t0,.;", -4);
+        faultOf("m0;".repeat(65) + "t0,a.", 195);
+        // What was wiped is not read.
+        CallTowers towers = new CallTowers();
+        Check.type(towers, "n2;m1;");
+        CHECK.on("4: a wiped text", towers, "wipe() = 6; write(110) = 1; write(50) = 2; fault() = 0; write(59) = 3; "
+            + "fault() = -4");
     }
 
     private static void lay() {
@@ -129,6 +141,11 @@ final class PromiseTest {
             + "target(0, 3) = 2; target(0, 4) = 0; target(0, 5) = 1; lay() = 1; drop(0) = -2");
         CHECK.onText("5: what a text leaves out", "r1,a,1,,0;", "count(0) = 2; count(2) = 0; count(3) = 0; "
             + "stack(-2) = 0; stack(-1) = 0; price() = -4; run(-1) = -4");
+        CallTowers twice = CHECK.onText("5: a second text", "n3;r0,a,2,,0;t2,.;c2,ab;m2;", "lay() = 1; walk(0, 1, 1) = 2; "
+            + "wipe() = 27");
+        Check.type(twice, "r1,b,1,,0;");
+        CHECK.on("5: a second text", twice, "lay() = 1; count(0) = 2; count(1) = 1; count(2) = 0; count(3) = 0; "
+            + "stack(-2) = 0; stack(-1) = 0; stack(0) = -4; rule(0, 1) = 1");
         CHECK.onText("5: a laid system changes and is laid again", "n1;r0,a,0,,0;c0,a;",
             "push(1) = 2; enter(0, 1, 0, 0, 1) = 1; lay() = 1; stack(-1) = 1; count(1) = 1; undo() = -2");
     }
@@ -256,6 +273,38 @@ final class PromiseTest {
             + "t1,;c0,ab;", "run(-1) = 2; run(0) = 2; run(1) = 5; drop(5) = 5; run(-1) = 3; run(0) = 0; run(1) = 1; run(2) = 3");
     }
 
+    /** A run of thousands of steps, each of which is asked for, forwards and then here and there. */
+    private static void longRun() {
+        String text = "n3;r2,d,0,,1;r2,b,2,dc,1;r1,d,2,bc,1;r0,c,2,da,1;r1,b,0,cd,1;r0,d,1,dc,1;r1,c,2,,1;r0,a,1,,1;"
+            + "r2,d,1,ba,1;r2,a,1,bb,1;t0,;c0,";
+        for (String letters : new String[] {"d;", "dc;", "dccc;", "dccccc;"}) {
+            CallTowers towers = new CallTowers();
+            Check.type(towers, text + letters);
+            CHECK.same("19: a long run: lay()", towers.lay(), 10);
+            int steps = towers.run(-1);
+            CHECK.same("19: a long run costs 1 a step", towers.price(), steps);
+            int[] rules = new int[Math.max(steps, 0)];
+            int state = 0;
+            StringBuilder stack = new StringBuilder(letters.replace(";", ""));
+            for (int k = 0; k < steps; k++) {
+                int r = towers.run(k);
+                rules[k] = r;
+                CHECK.holds("19: a long run: step " + k, r >= 0 && r < 10 && stack.length() > 0
+                    && towers.rule(r, 0) == state && towers.rule(r, 1) == stack.charAt(0) - 'a');
+                stack.deleteCharAt(0);
+                for (int i = towers.rule(r, 3) - 1; i >= 0; i--) {
+                    stack.insert(0, (char) ('a' + towers.rule(r, 4 + i)));
+                }
+                state = towers.rule(r, 2);
+            }
+            CHECK.holds("19: a long run ends at the target", steps > 0 && state == 0 && stack.length() == 0);
+            for (int k = steps - 1; k > 0; k = k * 2 / 3) {
+                CHECK.same("19: a long run again: " + k, towers.run(k), rules[k]);
+            }
+            CHECK.same("19: a long run is over", towers.run(steps), CallTowers.NONE);
+        }
+    }
+
     private static void heads() {
         CHECK.onNew("20", "heads(-1, 0) = -1; heads(2, 0) = -1; heads(0, -1) = -1; heads(0, 4) = -1; heads(0, 0) = 1; "
             + "heads(0, 1) = 1; heads(0, 2) = 1; heads(0, 3) = 0; heads(1, 0) = 1; heads(1, 1) = 0; heads(1, 2) = 1; "
@@ -270,6 +319,8 @@ final class PromiseTest {
         CHECK.onNew("21", "empty(-1) = -1; empty(2) = -1; empty(0) = 0; empty(1) = 1; pop() = 0; pop() = 0; empty(0) = 1; "
             + "empty(1) = 0; heads(0, 0) = 0; stuck() = 1; go(1) = 0; empty(1) = 1; push(3) = 1; empty(1) = 0; "
             + "heads(1, 3) = 1; stuck() = 1; pop() = 3; push(1) = 1; heads(0, 1) = 1; empty(1) = 1; empty(0) = 0");
+        CHECK.onText("21: what a later rule adds to an earlier one", "n2;r0,a,1,,0;r0,b,0,a,0;r0,a,0,,0;c0,b;",
+            "empty(0) = 1; empty(1) = 1; stuck() = 2");
         CHECK.onNew("22", "stuck() = 2; drop(5) = 6; stuck() = 1; drop(5) = 5; stuck() = 2; drop(4) = 4; stuck() = 1");
         CHECK.onText("22: several", "n3;r0,a,1,,0;r0,a,2,,0;c0,a;", "stuck() = 2; push(0) = 2; stuck() = 2; "
             + "heads(1, 0) = 1; heads(2, 0) = 1; enter(1, 0, 0, 0, 0) = 2; stuck() = 2; empty(0) = 1; empty(1) = 0; "
