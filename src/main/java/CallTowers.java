@@ -22,7 +22,8 @@ public final class CallTowers {
     private static final int STEPS = 1;
     private static final int WORST = 2;
     private static final int NODES = STATES + 2 + TARGETS * (TARGET_LETTERS - 1);
-    private static final int FAR = 1000000000;
+    // No edge is as heavy; a long holds every sum, and every price and number of steps is below 2 to the 31st.
+    private static final long FAR = 1000000000000L;
     // A cheapest edge never needs itself, so 3 * 4 * 13 rounds settle every automaton.
     private static final int ROUNDS = 1000;
     // For the same reason a shortest run piles up at most 3 * 4 * 13 letters on the 12 that are there.
@@ -309,8 +310,8 @@ public final class CallTowers {
         if (!net.isNode(node) || !isLetter(letter) || !net.isNode(to)) {
             return BAD;
         }
-        int weight = net.weights[edgeAt(node, letter, to)];
-        return weight < FAR ? weight : NONE;
+        long weight = net.weights[edgeAt(node, letter, to)];
+        return weight < FAR ? (int) weight : NONE;
     }
 
     public int automaton(int what) {
@@ -828,14 +829,14 @@ public final class CallTowers {
         int edges;
         int rounds;
         // The weight of an edge, FAR if there is none.
-        final int[] weights = new int[NODES * LETTERS * NODES];
-        private final int[] before = new int[NODES * LETTERS * NODES];
+        final long[] weights = new long[NODES * LETTERS * NODES];
+        private final long[] before = new long[NODES * LETTERS * NODES];
         private final boolean[] accepting = new boolean[NODES];
         private final int[] costs = new int[RULES];
         private boolean worst;
         // Row of the weights by which what is read so far leads to each node.
-        private int[] read = new int[NODES];
-        private int[] spare = new int[NODES];
+        private long[] read = new long[NODES];
+        private long[] spare = new long[NODES];
 
         boolean isNode(int node) {
             return node >= 0 && node < nodes;
@@ -932,7 +933,7 @@ public final class CallTowers {
             boolean changed = false;
             for (int to = 0; to < nodes; to++) {
                 if (read[to] < FAR) {
-                    int weight = joined(cost, read[to]);
+                    long weight = joined(cost, read[to]);
                     if (weight < weights[start + to]) {
                         weights[start + to] = weight;
                         changed = true;
@@ -942,7 +943,7 @@ public final class CallTowers {
             return changed;
         }
 
-        private int joined(int one, int other) {
+        private long joined(long one, long other) {
             return worst ? Math.max(one, other) : one + other;
         }
 
@@ -968,7 +969,7 @@ public final class CallTowers {
                     }
                 }
             }
-            int[] filled = spare;
+            long[] filled = spare;
             spare = read;
             read = filled;
         }
@@ -979,28 +980,28 @@ public final class CallTowers {
             for (int i = tower.height - 1; i >= 0; i--) {
                 readOn(tower.stack[i]);
             }
-            int best = FAR;
+            long best = FAR;
             for (int node = 0; node < nodes; node++) {
                 if (accepting[node]) {
                     best = Math.min(best, read[node]);
                 }
             }
-            return best < FAR ? best : NONE;
+            return best < FAR ? (int) best : NONE;
         }
 
         /** Fills the row of a table with the steps from each node to acceptance by no letters. */
-        void fillBottom(int[] table) {
+        void fillBottom(long[] table) {
             for (int node = 0; node < NODES; node++) {
                 table[node] = accepting[node] ? 0 : FAR;
             }
         }
 
         /** The fewest steps from a node by a letter and then on by what the row tells. */
-        int stepsOver(int node, int letter, int[] table, int row) {
-            int best = FAR;
+        long stepsOver(int node, int letter, long[] table, int row) {
+            long best = FAR;
             int start = edgeAt(node, letter, 0);
             for (int to = 0; to < nodes; to++) {
-                int rest = table[row * NODES + to];
+                long rest = table[row * NODES + to];
                 if (weights[start + to] < FAR && rest < FAR) {
                     best = Math.min(best, weights[start + to] + rest);
                 }
@@ -1009,12 +1010,12 @@ public final class CallTowers {
         }
 
         /** The same for two letters. */
-        int stepsOverTwo(int node, int letter, int second, int[] table, int row) {
-            int best = FAR;
+        long stepsOverTwo(int node, int letter, int second, long[] table, int row) {
+            long best = FAR;
             int start = edgeAt(node, letter, 0);
             for (int to = 0; to < nodes; to++) {
                 if (weights[start + to] < FAR) {
-                    int rest = stepsOver(to, second, table, row);
+                    long rest = stepsOver(to, second, table, row);
                     if (rest < FAR) {
                         best = Math.min(best, weights[start + to] + rest);
                     }
@@ -1031,10 +1032,10 @@ public final class CallTowers {
     private static final class Route {
         private final int[] letters = new int[HIGH];
         // Row h tells for each node the fewest steps to acceptance over the h lowest letters.
-        private final int[] tails = new int[HIGH * NODES];
+        private final long[] tails = new long[HIGH * NODES];
         private int height;
         private int state;
-        private int left;
+        private long left;
         private int latest;
         int done;
 
@@ -1059,7 +1060,7 @@ public final class CallTowers {
         }
 
         int steps() {
-            return left < FAR ? done + left : NONE;
+            return left < FAR ? (int) (done + left) : NONE;
         }
 
         /** The rule of step k, which may be the last one that is done, or one after it. */
@@ -1087,7 +1088,7 @@ public final class CallTowers {
             return NONE;
         }
 
-        private int stepsAfter(int next, int word, Net paces) {
+        private long stepsAfter(int next, int word, Net paces) {
             int below = height - 1;
             switch (lettersIn(word)) {
                 case 0: return tails[below * NODES + next];

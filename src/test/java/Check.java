@@ -47,7 +47,8 @@ final class Check {
         }
     }
 
-    private static int play(CallTowers towers, String call) {
+    /** Makes a call such as "push(0)" and returns its answer. */
+    static int play(CallTowers towers, String call) {
         int open = call.indexOf('(');
         String inside = call.substring(open + 1, call.length() - 1).trim();
         String[] words = inside.isEmpty() ? new String[0] : inside.split(",");
