@@ -18,6 +18,7 @@ final class BoundaryTest {
     }
 
     public static void main(String[] args) {
+        lastCall();
         states();
         letters();
         rules();
@@ -95,6 +96,18 @@ final class BoundaryTest {
         for (String text : texts) {
             fault(sentence, text, NONE);
         }
+    }
+
+    private static void lastCall() {
+        String sentence = "An object is used for at most 512 calls after it has been made";
+        StringBuilder calls = new StringBuilder();
+        for (int i = 0; i < 250; i++) {
+            calls.append("go(").append(1 - i % 2).append(") = ").append(i % 2).append("; ");
+            calls.append("price() = ").append(i % 2 == 0 ? 6 : 9).append("; ");
+        }
+        // Twelve more make 512.
+        on(sentence, calls + "count(4) = 8; undo() = 7; undo() = 6; keep() = 1; weigh(0, 9) = 2; price() = 16; run(3) = 2; "
+            + "run(0) = 0; back() = 0; undo() = -2; run(-1) = 4; price() = 9");
     }
 
     // ---- SYSTEMS
