@@ -345,6 +345,7 @@ final class BoundaryTest {
             "push(3) = 7; push(3) = 8; push(3) = 9; push(3) = 10; push(3) = 11; push(0) = 12; price() = 26; run(-1) = 26; "
             + "run(0) = 0; run(1) = 1; run(2) = 2; run(3) = 3; run(25) = 3; run(26) = -4; step(0) = -3; heads(0, 1) = 1; "
             + "heads(0, 2) = 1; needed() = 15; mode(2) = 0; price() = 1");
+        highestRun(sentence);
         sentence = "It costs, with mode 0, the sum of the costs of its rules; with mode 1 the number of its steps";
         with(sentence, "n1;r0,a,0,,0;t0,;c0,aa;", "price() = 0; run(-1) = 2; mode(1) = 0; price() = 2");
         with(sentence, "n1;r0,a,0,,9;t0,;c0,aaaaaa;", "price() = 54; run(-1) = 6; mode(1) = 0; price() = 6");
@@ -355,6 +356,31 @@ final class BoundaryTest {
         with(sentence, "n1;r0,a,0,a,0;t0,;c0,a;", "price() = -4; run(-1) = -4; run(0) = -4; needed() = 0; dear(0) = -4; "
             + "mode(1) = 0; price() = -4; mode(2) = 1; price() = -4; pop() = 0; price() = 0");
         with(sentence, "n1;r0,a,0,,0;c0,a;", "price() = -4; pop() = 0; price() = -4");
+    }
+
+    /** On 12 letters the shortest run piles up 20 more before they are removed one by one. */
+    private static void highestRun(String sentence) {
+        String text = "n3;r0,b,0,cd,3;r0,a,1,cd,4;r1,d,0,ad,7;r2,b,0,bd,3;r1,d,0,,8;r2,d,1,,8;r1,a,1,dd,4;r1,c,2,bd,3;"
+            + "r0,c,1,ad,5;r0,d,2,,0;t2,;c0,dddddd;";
+        String run = "1730862173086217308649549549549549549549549549549549";
+        CallTowers towers = CHECK.onText(sentence, text, "push(3) = 7; push(3) = 8; push(3) = 9; push(3) = 10; push(3) = 11; "
+            + "push(0) = 12; run(-1) = " + run.length() + "; run(" + run.length() + ") = -4; mode(1) = 0; price() = "
+            + run.length() + "; mode(0) = 1; needed() = 1023; step(0) = -2; step(1) = -3");
+        int height = 12;
+        int highest = height;
+        int price = 0;
+        for (int k = 0; k < run.length(); k++) {
+            int r = towers.run(k);
+            CHECK.same(sentence + ": run(" + k + ")", r, run.charAt(k) - '0');
+            price += towers.rule(r, 6);
+            height += towers.rule(r, 3) - 1;
+            highest = Math.max(highest, height);
+        }
+        CHECK.same(sentence + ": the highest stack", highest, 32);
+        CHECK.same(sentence + ": the stack at the end", height, 0);
+        // Here the shortest run is also the cheapest one.
+        CHECK.same(sentence + ": the price", towers.price(), price);
+        CHECK.same(sentence + ": the highest step again", towers.run(20), run.charAt(20) - '0');
     }
 
     private static void shortestRun() {
