@@ -33,6 +33,9 @@ final class OracleTest {
         for (int seed = first; seed < first + 150 * scale; seed++) {
             new OracleTest(seed).ask();
         }
+        for (int seed = first; seed < first + 50 * scale; seed++) {
+            new OracleTest(seed).askLargest(seed % 25 == 0);
+        }
         for (int seed = first; seed < first + 1500 * scale; seed++) {
             new OracleTest(seed).search();
         }
@@ -205,6 +208,24 @@ final class OracleTest {
         return text.toString();
     }
 
+    /** Most words have letters, so that the words are read on from node to node. */
+    private String largestText() {
+        StringBuilder text = new StringBuilder("n3;");
+        for (int i = 0; i < 10; i++) {
+            String word = random.nextInt(3) == 0 ? "" : word(2, 4);
+            text.append("r").append(random.nextInt(3)).append(",").append((char) ('a' + random.nextInt(4))).append(",")
+                .append(random.nextInt(3)).append(",").append(word).append(",").append(random.nextInt(10)).append(";");
+        }
+        for (int t = 0; t < 4; t++) {
+            text.append("t").append(random.nextInt(3)).append(",");
+            for (int i = 0; i < 3; i++) {
+                text.append((char) ('a' + random.nextInt(4)));
+            }
+            text.append(random.nextBoolean() ? ".;" : ";");
+        }
+        return text.append("c").append(random.nextInt(3)).append(",").append(word(6, 4)).append(";").toString();
+    }
+
     private String spoiled(String text) {
         int at = random.nextInt(text.length());
         String signs = "nrtcm0123456789,,;;..abcde ";
@@ -228,6 +249,25 @@ final class OracleTest {
             }
             oracle.call("lay");
         }
+        askInEachMode(text, true);
+    }
+
+    /** The most states, rules and targets, and the longest words: no automaton has more nodes. */
+    private void askLargest(boolean edges) {
+        String text = "";
+        for (int i = 0; i < 100 && (i == 0 || oracle.call("price") < 1); i++) {
+            text = largestText();
+            oracle.call("wipe");
+            for (char letter : text.toCharArray()) {
+                oracle.call("write", letter);
+            }
+            oracle.call("lay");
+        }
+        askInEachMode(text, edges);
+        CHECK.same(text + ": the largest automaton", towers.automaton(0), 13);
+    }
+
+    private void askInEachMode(String text, boolean edges) {
         Check.type(towers, text);
         towers.lay();
         story.append(text).append(": ");
@@ -235,11 +275,14 @@ final class OracleTest {
             same("mode", (towers.count(3) + 1) % 3);
             story.setLength(text.length() + 2);
             story.append("mode(").append(towers.count(3)).append("); ");
-            askAll();
+            askFigures();
+            if (edges) {
+                askEdges();
+            }
         }
     }
 
-    private void askAll() {
+    private void askFigures() {
         int length = story.length();
         for (String name : List.of("price", "stuck", "needed")) {
             same(name);
@@ -257,6 +300,10 @@ final class OracleTest {
             same("automaton", what);
         }
         story.setLength(length);
+    }
+
+    private void askEdges() {
+        int length = story.length();
         for (int letter = 0; letter < 4; letter++) {
             for (int node = 0; node <= towers.automaton(0); node++) {
                 for (int to = 0; to <= towers.automaton(0); to++) {
